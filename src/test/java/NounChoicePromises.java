@@ -427,6 +427,12 @@ public final class NounChoicePromises {
         due("last is no noun", x.fits(0), 0);
         row(x, RED);
         due("adjective alone", x.fits(0), 0);
+        row(x, BLUE, RED, COIN);
+        due("the first of three is no word of it", x.fits(0), 0);
+        row(x, RED, BLUE, COIN);
+        due("the second of three is no word of it", x.fits(0), 0);
+        row(x, RED, COIN, COIN);
+        due("three words of it", x.fits(0), 1);
         row(x, COINS);
         due("coins 0", x.fits(0), 2);
         due("coins 3", x.fits(3), 0);
@@ -471,6 +477,7 @@ public final class NounChoicePromises {
         x.place(0, AWAY);
         due("my, away", x.fits(0), 0);
         row(x, OTHER, COINS);
+        due("other, none chosen", x.fits(0), 2);
         due("other, none chosen", x.fits(1), 2);
         choose(x, ALL, COINS);
         dueChosen("coins there", x, 1, 2);
